@@ -36,7 +36,7 @@ public final class FrameBroker {
         topmost = new Window[CELLS];
         lastWindows = new int[CELLS];
         lastPictures = new int[CELLS];
-        for (int cell = 0; cell < lastWindows.length; cell++) {
+        for (int cell = 0; cell < CELLS; cell++) {
             lastWindows[cell] = NONE;
         }
         opened = 0;
@@ -187,9 +187,7 @@ public final class FrameBroker {
      */
     public int show() {
         int before = countDamage();
-        for (int cell = 0; cell < topmost.length; cell++) {
-            remember(cell);
-        }
+        rememberScreen();
         return before;
     }
 
@@ -369,7 +367,7 @@ public final class FrameBroker {
                 window.isOnScreen = false;
             }
         }
-        for (int cell = 0; cell < topmost.length; cell++) {
+        for (int cell = 0; cell < CELLS; cell++) {
             Window window = stack.topmostOver(cell % COLUMNS, cell / COLUMNS);
             topmost[cell] = window;
             if (window != null) {
@@ -380,29 +378,22 @@ public final class FrameBroker {
 
     private int countDamage() {
         int count = 0;
-        for (int cell = 0; cell < topmost.length; cell++) {
-            if (isDamaged(cell)) {
+        for (int cell = 0; cell < CELLS; cell++) {
+            Window window = topmost[cell];
+            if (numberOf(window) != lastWindows[cell]
+                    || pictureOf(window) != lastPictures[cell]) {
                 count++;
             }
         }
         return count;
     }
 
-    private boolean isDamaged(int cell) {
-        if (cell < 0 || cell >= CELLS) {
-            return false;
+    private void rememberScreen() {
+        for (int cell = 0; cell < CELLS; cell++) {
+            Window window = topmost[cell];
+            lastWindows[cell] = numberOf(window);
+            lastPictures[cell] = pictureOf(window);
         }
-        Window window = topmost[cell];
-        return numberOf(window) != lastWindows[cell] || pictureOf(window) != lastPictures[cell];
-    }
-
-    private void remember(int cell) {
-        if (cell < 0 || cell >= CELLS) {
-            return;
-        }
-        Window window = topmost[cell];
-        lastWindows[cell] = numberOf(window);
-        lastPictures[cell] = pictureOf(window);
     }
 
     // ---- pages

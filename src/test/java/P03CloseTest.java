@@ -42,6 +42,11 @@ public final class P03CloseTest {
         }
         Due.is("close of the lowest one", x.close(0), 7);
         Due.is("close of the topmost one", x.close(7), 6);
+        for (int closed = 0; closed < 8; closed += 7) {
+            int window = closed;
+            Due.is("close of a closed one", Due.answer(() -> x.close(window)),
+                    "throws IndexOutOfBoundsException");
+        }
         for (int i = 1; i < 7; i++) {
             Due.is("the place of another", x.placeOf(i), i - 1);
         }
