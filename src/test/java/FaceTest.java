@@ -4,28 +4,35 @@ import java.lang.reflect.Method;
 import java.lang.reflect.Modifier;
 import java.util.TreeSet;
 
-/** The public face: its members with their signatures, and nothing beside them. */
+/**
+ * The public face: its members with their signatures and the exceptions that they declare, in
+ * their order, and nothing beside them.
+ */
 public final class FaceTest {
+    private static final String ARGUMENT = "IllegalArgumentException";
+    private static final String STATE = "IllegalStateException";
+    private static final String INDEX = "IndexOutOfBoundsException";
+
     private static final String[] CALLS = {
-        "int open(int, int, int, int, boolean, int, int)",
-        "int close(int)",
-        "void move(int, int, int)",
-        "int lay(int, boolean)",
-        "int advance(int)",
-        "int input(int, int)",
+        "int open(int, int, int, int, boolean, int, int) throws " + ARGUMENT + ", " + STATE,
+        "int close(int) throws " + INDEX,
+        "void move(int, int, int) throws " + INDEX + ", " + ARGUMENT,
+        "int lay(int, boolean) throws " + INDEX,
+        "int advance(int) throws " + ARGUMENT + ", " + STATE,
+        "int input(int, int) throws " + INDEX,
         "int show()",
         "int tick()",
         "int windows()",
         "int free()",
         "int damage()",
-        "int at(int, int)",
-        "int placeOf(int)",
-        "boolean isSeen(int)",
-        "int pagesOf(int)",
-        "int picture(int)",
-        "int pace(int)",
-        "int misses(int)",
-        "int deadline(int)",
+        "int at(int, int) throws " + INDEX,
+        "int placeOf(int) throws " + INDEX,
+        "boolean isSeen(int) throws " + INDEX,
+        "int pagesOf(int) throws " + INDEX,
+        "int picture(int) throws " + INDEX,
+        "int pace(int) throws " + INDEX,
+        "int misses(int) throws " + INDEX,
+        "int deadline(int) throws " + INDEX,
     };
 
     public static void main(String[] args) {
@@ -62,10 +69,19 @@ public final class FaceTest {
         StringBuilder text = new StringBuilder();
         text.append(Modifier.toString(method.getModifiers())).append(' ');
         text.append(method.getReturnType()).append(' ').append(method.getName()).append('(');
-        Class<?>[] kinds = method.getParameterTypes();
-        for (int i = 0; i < kinds.length; i++) {
-            text.append(i == 0 ? "" : ", ").append(kinds[i]);
+        text.append(listed(method.getParameterTypes())).append(')');
+        Class<?>[] thrown = method.getExceptionTypes();
+        if (thrown.length > 0) {
+            text.append(" throws ").append(listed(thrown));
         }
-        return text.append(')').toString();
+        return text.toString();
+    }
+
+    private static String listed(Class<?>[] kinds) {
+        StringBuilder text = new StringBuilder();
+        for (int i = 0; i < kinds.length; i++) {
+            text.append(i == 0 ? "" : ", ").append(kinds[i].getSimpleName());
+        }
+        return text.toString();
     }
 }

@@ -1,6 +1,5 @@
 /** Promise 18: pace. */
 public final class P18PaceTest {
-    /** A window of the period 2 and the cost 3, hidden when frames shall go. */
     private static void paceAt(FrameBroker x, int tick, int pace) {
         x.advance(tick - x.tick());
         Due.is("pace at " + tick, x.pace(0), pace);
