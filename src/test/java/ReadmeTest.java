@@ -99,9 +99,9 @@ public final class ReadmeTest {
         }
         Due.is("the kinds of tests", kinds, want);
         String listed = readme.substring(Math.max(0, readme.indexOf("## Tests")));
-        for (String name : List.of("Due.java", "FaceTest", "LanguageTest", "Model.java", "ModelTest",
-                "ReadmeTest", "P01...Test", "P20...Test", "E01...Test", "E20...Test", "T1ScreenTest",
-                "T9CallsTest")) {
+        for (String name : List.of("Due.java", "FaceTest", "LanguageTest", "Model.java",
+                "ModelTest", "ReadmeTest", "P01...Test", "P20...Test", "E01...Test", "E20...Test",
+                "T1ScreenTest", "T9CallsTest")) {
             Due.is(name + " is listed", listed.contains("`" + name + "`"), true);
         }
         for (String name : List.of("T1ScreenTest", "T3PagesTest", "T9CallsTest")) {
